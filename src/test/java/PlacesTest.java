@@ -269,6 +269,7 @@ public final class PlacesTest {
     told(y, 7);
     Due.due("HAND is full all the same", y.swap(0, 1), 1);
     Due.due("came", y.look(0, 0x11), 7);
+    Due.due("the field behind it stays", y.look(0, 0x12), 5);
   }
 
   private static void push() {
