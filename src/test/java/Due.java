@@ -17,6 +17,22 @@ final class Due {
     }
   }
 
+  /** Two texts of many lines, of which the first line that is not the same is told. */
+  static void same(String where, String got, String want) {
+    String[] gotLines = got.split("\n");
+    String[] wantLines = want.split("\n");
+    asked++;
+    for (int i = 0; i < Math.max(gotLines.length, wantLines.length); i++) {
+      String one = i < gotLines.length ? gotLines[i] : "no more";
+      String other = i < wantLines.length ? wantLines[i] : "no more";
+      if (!one.equals(other)) {
+        wrong++;
+        System.out.println(where + ": line " + i + " is '" + one + "', due is '" + other + "'");
+        return;
+      }
+    }
+  }
+
   /** All of count(0) .. count(9), in one row. */
   static void counts(String where, CellYard yard, int... want) {
     for (int what = 0; what < want.length; what++) {
