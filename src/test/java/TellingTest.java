@@ -9,6 +9,7 @@ public final class TellingTest {
     eachCount();
     manyLevels();
     longChain();
+    mostWaiting();
     Due.finish();
   }
 
@@ -167,6 +168,33 @@ public final class TellingTest {
     for (int i = 0; i < 160; i++) {
       Due.due("out " + i, y.out(i), i);
     }
+  }
+
+  /** About as much as 512 calls can make wait: six fields of each of 45 RECORDS, behind the next one. */
+  private static void mostWaiting() {
+    CellYard y = new CellYard();
+    int leaf = y.record(true, 0, NONE, NONE);
+    int box = y.box(NONE);
+    int link = y.choice(leaf, box, NONE);
+    int inner = y.record(false, link, 0, 0);
+    int middle = y.record(false, inner, 0, 0);
+    int node = y.record(false, middle, 0, 0);
+    y.tie(box, node);
+    leaves(y, leaf, 55, 1);
+    y.make(link, 0);
+    for (int i = 0; i < 45; i++) {
+      for (int record = inner; record <= node; record++) {
+        y.number(i);
+        y.number(i);
+        y.make(record, 0);
+      }
+      y.make(box, 0);
+      y.make(link, 1);
+    }
+    Due.counts("made", y, 7, 1, 1, 1, 0, 45, 0, 1, 0, 0);
+    Due.due("drop", y.drop(), 1);
+    Due.counts("dropped", y, 7, 1, 0, 0, 0, 0, 0, 1, 1, 1);
+    Due.outs("the innermost", y, 55);
   }
 
   private static void leaves(CellYard y, int leaf, int first, int n) {
