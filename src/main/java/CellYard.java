@@ -141,7 +141,7 @@ public final class CellYard {
         }
         int id = ground.takeRow(n);
         int firstAt = handAt(frames.handCount() - n);
-        ground.moveCells(firstAt, ground.rowAt(id), n * MOST_SIZE);
+        ground.moveCells(firstAt, ground.elementAt(id, 0), n * MOST_SIZE);
         ground.write(firstAt, id);
         frames.takeOff(n);
         frames.layOn(shape);
@@ -752,12 +752,8 @@ public final class CellYard {
             return isBox(id) ? BOXES_AT + (int) id * MOST_SIZE : NONE;
         }
 
-        int rowAt(long id) {
-            return isRow(id) ? ROWS_AT + (int) id * ROW_CELLS : NONE;
-        }
-
         int elementAt(long id, int element) {
-            return isRow(id) ? rowAt(id) + element * MOST_SIZE : NONE;
+            return isRow(id) ? ROWS_AT + (int) id * ROW_CELLS + element * MOST_SIZE : NONE;
         }
 
         int lengthOf(long id) {
